@@ -13,6 +13,7 @@ public final class AllTests {
         WhitherTests.run();
         WhichTests.run();
         KeepingTests.run();
+        ModelTests.run();
         if (!Checks.close()) {
             System.exit(1);
         }

@@ -8,6 +8,7 @@ final class KeepingTests {
     static void run() {
         part();
         image();
+        imageKeepsAllThatMayBeUndone();
         imagesAreTwo();
         from();
         statusOfBad();
@@ -82,6 +83,28 @@ final class KeepingTests {
             Checks.due(36, "from(" + i + ")", x.from(i), -2);
         }
         Checks.due(36, "status(0)", x.status(0), 8);
+    }
+
+    private static void imageKeepsAllThatMayBeUndone() {
+        WhistleFlock x = Checks.told("fell 0;whistle 0 0;sheep 3 12;");
+        int[] calls = {1, 2, 1, 2, 1, 2, 1, 2};
+        long[] digests = new long[calls.length];
+        for (int n = 0; n < calls.length; n++) {
+            digests[n] = x.digest();
+            x.calls(0, calls[n]);
+        }
+        x.image(0);
+        x.fell(3);
+        x.whistle(1, 24);
+        x.sheep(1, 4);
+        for (int n = 0; n < calls.length; n++) {
+            x.steps(90);
+        }
+        x.from(0);
+        for (int n = calls.length - 1; n >= 0; n--) {
+            Checks.due(36, "undo() behind from(0)", x.undo(), n);
+            Checks.due(36, "digest behind it", x.digest(), digests[n]);
+        }
     }
 
     private static void imagesAreTwo() {

@@ -284,6 +284,8 @@ final class WhichTests {
         Checks.due(31, "status(0)", two.status(0), 0);
         WhistleFlock away = Checks.told("fell 12;whistle 0 24;whistle 4 9;sheep 0 12;sheep 0 12;");
         rests(away, 0, 1, 43);
+        rests(Checks.told("fell 1;whistle 0 16;whistle 0 24;sheep 0 6;sheep 0 6;"), 0, 1, 4);
+        rests(Checks.told("fell 6;whistle 0 24;whistle 0 16;sheep 0 6;sheep 0 6;"), 0, 1, 40);
     }
 
     private static void shepherdsAreRefused() {
