@@ -1,6 +1,6 @@
 import java.io.IOException;
 
-/** Runs every test of the project; its one argument is the place of WhistleFlock.java. */
+/** Runs every test of the project; its arguments are the places of WhistleFlock.java and of DOC.md. */
 public final class AllTests {
     private AllTests() {
     }
@@ -13,9 +13,24 @@ public final class AllTests {
         WhitherTests.run();
         WhichTests.run();
         KeepingTests.run();
+        sentences(args.length > 1 ? args[1] : "../shared/DOC.md");
         ModelTests.run();
         if (!Checks.close()) {
             System.exit(1);
+        }
+    }
+
+    private static void sentences(String place) throws IOException {
+        Document.load(place);
+        NumberSentences.run();
+        GroundSentences.run();
+        TextSentences.run();
+        CallSentences.run();
+        WhitherSentences.run();
+        WhichSentences.run();
+        KeptSentences.run();
+        for (String stretch : Document.unnamed()) {
+            Checks.holds("a test names of the document's part " + stretch, false);
         }
     }
 }
