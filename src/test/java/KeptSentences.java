@@ -88,13 +88,17 @@ final class KeptSentences {
         for (int what = 0; what < 3; what++) {
             x.forget(what);
         }
-        x.seen(6, 1);
-        x.note(2, 9, 9);
-        x.mark(5, 4, 3);
+        for (int n = 0; n < 6; n++) {
+            x.seen(6 - n, 20 + n);
+            x.note(2 - n % 3, 90 + n, 20 - n);
+            x.mark(6 - n, 8 - n, n);
+        }
         x.fold(13);
         x.fell(14);
-        x.whistle(0, 3);
-        x.sheep(0, 3);
+        for (int n = 0; n < 7; n++) {
+            x.whistle(n % 2, 20 - n);
+            x.sheep(2, 10 + n);
+        }
         x.steps(5);
     }
 

@@ -55,7 +55,7 @@ final class Scenes {
         }
         int[] sheep = {24, 18, 6, 12, 3, 21, 24};
         for (int s = 0; s < sheep.length; s++) {
-            x.sheep(s % 6, sheep[s]);
+            x.sheep((s + 1) % 6, sheep[s]);
         }
         x.image(0);
         for (int n = 0; n < 9; n++) {

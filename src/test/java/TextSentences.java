@@ -6,6 +6,9 @@ final class TextSentences {
     private static final String ALL_STEPS = "fell 0;steps 99;steps 99;steps 99;steps 99;steps 99;steps 99;steps 99;"
         + "steps 99;steps 99;steps 99;steps 99;steps 99;steps 99;steps 99;steps 99;steps 1;";
 
+    private static final String MADE =
+        "fell 12;whistle 3 8;whistle 4 3;whistle 2 14;sheep 4 5;sheep 3 12;sheep 0 13;";
+
     private TextSentences() {
     }
 
@@ -24,6 +27,7 @@ final class TextSentences {
         bytesBehindANumber();
         blanks();
         wordsThatAreNone();
+        wordsWithOneOtherLetter();
         fellAgain();
         aheadOfFell();
         oneTooMany();
@@ -33,6 +37,7 @@ final class TextSentences {
         whatCanNotStandThere();
         endedTooEarly();
         takesThePlace();
+        answersAsOneThatIsMade();
         itemsAndFault();
     }
 
@@ -253,6 +258,23 @@ final class TextSentences {
             faults(s, "fell 0;" + word + " 1 1;", 7);
             faults(s, "fell 0; " + word, 8);
         }
+        faults(s, "fell plain;", 5);
+        faults(s, "fell 0;whistle 0 plain;", 17);
+        faults(s, "fell 0;whistle 0 0 plain", 19);
+    }
+
+    private static void wordsWithOneOtherLetter() {
+        Sentence s = Sentence.ofTerms(8, "(a word that is none,");
+        for (String word : new String[] {"fell", "whistle", "sheep", "call", "steps"}) {
+            String ahead = word.equals("fell") ? "" : "fell 0;whistle 0 0;";
+            String behind = word.equals("fell") || word.equals("steps") ? " 1;" : " 0 1;";
+            reads(s, ahead + word + behind, word.equals("fell") ? 1 : 3);
+            for (int n = 0; n < word.length(); n++) {
+                faults(s, ahead + word.substring(0, n) + 'q' + word.substring(n + 1) + behind, ahead.length());
+                faults(s, ahead + word.substring(0, n) + word.substring(n + 1) + behind, ahead.length());
+            }
+            faults(s, ahead + word + "s" + behind, ahead.length());
+        }
     }
 
     private static void fellAgain() {
@@ -401,6 +423,31 @@ final class TextSentences {
             s.due("from(" + i + ")", x.from(i), other.from(i));
             s.due("the image " + i, x.digest(), other.digest());
         }
+    }
+
+    /** One that is read in a full fell answers as one that is made by calls, THE TEXT being the same. */
+    private static void answersAsOneThatIsMade() {
+        Sentence s = Sentence.ofTerms(8, "A FELL that is read takes the place of all but IMAGES, THE TEXT, THE FRACTION,");
+        Asks.all().forEach((name, ask) -> {
+            WhistleFlock read = Scenes.full();
+            read.clear();
+            Checks.write(read, MADE);
+            s.due("read()", read.read(), 7);
+            s.due(name, ask.applyAsLong(read), ask.applyAsLong(made()));
+        });
+    }
+
+    private static WhistleFlock made() {
+        WhistleFlock x = new WhistleFlock();
+        Checks.write(x, MADE);
+        x.fell(12);
+        x.whistle(3, 8);
+        x.whistle(4, 3);
+        x.whistle(2, 14);
+        x.sheep(4, 5);
+        x.sheep(3, 12);
+        x.sheep(0, 13);
+        return x;
     }
 
     private static void itemsAndFault() {

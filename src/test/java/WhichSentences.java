@@ -43,6 +43,7 @@ final class WhichSentences {
         misheardByOdds();
         winters();
         wintersBySteps();
+        wintersAreCut();
     }
 
     /** A fell told by a text, and behind it SHEEP with the CELLS to which they were seen to come. */
@@ -357,6 +358,9 @@ final class WhichSentences {
         hears(s, up, 4, 2, 10, 1, 1);
         hears(s, up, 4, 2, 0, 0, 1);
         hears(s, up, 4, 2, 3, 3, 10);
+        hears(s, up, 4, 0, 0, 1, 1);
+        hears(s, up, 3, 4, 10, 1, 1);
+        hears(s, up, 3, 4, 0, 0, 1);
     }
 
     /** Two calls back are needed, each heard as such by c of 10 where down was called, else where back was. */
@@ -377,6 +381,13 @@ final class WhichSentences {
         hears(s, "fell 4;whistle 4 0;sheep 2 3;", 1, 4, 0, 0, 1);
         hears(s, "fell 4;whistle 2 2;sheep 2 3;", 1, 4, 0, 0, 1);
         hears(s, "fell 4;whistle 2 2;sheep 2 3;", 4, 1, 0, 1, 1);
+        WhistleFlock last = Checks.told("fell 0;whistle 0 24;whistle 0 3;sheep 0 24;sheep 0 13;sheep 0 1;");
+        s.done(last, "misheard(2, 1, 3, 4, 3)", x -> x.misheard(2, 1, 3, 4, 3), 1);
+        s.due("of the last by the second", 1000 * last.part(0) + last.part(1), 7010);
+        last.misheard(1, 1, 3, 4, 3);
+        s.due("of another", 1000 * last.part(0) + last.part(1), 1);
+        last.misheard(2, 0, 3, 4, 3);
+        s.due("by another", 1000 * last.part(0) + last.part(1), 1);
     }
 
     private static void wintered(Sentence s, String text, int seed, int n, int folded) {
@@ -412,5 +423,14 @@ final class WhichSentences {
         wintered(s, "fell 14;whistle 0 24;whistle 0 12;sheep 0 13;", 1, 1, 0);
         wintered(s, "fell 14;whistle 0 24;whistle 0 12;sheep 0 13;", 1, 2, 1);
         wintered(s, "fell 3;sheep 0 3;sheep 5 3;", 5, 60, 2);
+    }
+
+    /** X just above or below what 1048576 divides, and what 65536 divides: a divisor one off would call otherwise. */
+    private static void wintersAreCut() {
+        Sentence s = Sentence.ofTerms(33, "is called by X by 1048576 (cut), by 5 left over:");
+        wintered(s, "fell 22;whistle 0 7;sheep 0 17;", 4034, 1, 1);
+        wintered(s, "fell 14;whistle 0 11;sheep 0 13;", 7383, 1, 1);
+        wintered(s, "fell 14;whistle 0 24;whistle 0 24;whistle 0 12;sheep 0 13;", 3, 1, 1);
+        wintered(s, "fell 14;whistle 0 12;whistle 0 24;whistle 0 24;sheep 0 13;", 9, 1, 1);
     }
 }

@@ -1,4 +1,8 @@
+import java.util.ArrayList;
 import java.util.Arrays;
+import java.util.Collections;
+import java.util.List;
+import java.util.Map;
 import java.util.function.Supplier;
 import java.util.function.ToLongFunction;
 
@@ -11,12 +15,15 @@ final class WhitherSentences {
 
     static void run() {
         nothingIsChanged();
+        askedBehindOthers();
         stepsGoBeyond();
         goes();
         gives();
         folded();
         drive();
         driveCalls();
+        driveToEachCell();
+        driveOfTheLast();
         driveNone();
         driveNotSoMany();
         driveIsRefused();
@@ -29,28 +36,25 @@ final class WhitherSentences {
     private static void nothingIsChanged() {
         Sentence s = Sentence.ofTerms(14, "======== 2 (Nothing is changed by these; STEPS go beyond 9999 in them.)");
         for (Supplier<WhistleFlock> scene : Arrays.<Supplier<WhistleFlock>>asList(Scenes::some, Scenes::full, Scenes::last)) {
-            same(s, scene, "goes", x -> x.goes(0, 1));
-            same(s, scene, "gives", x -> x.gives(0, 0, 1));
-            same(s, scene, "folded", WhistleFlock::folded);
-            same(s, scene, "drive", x -> x.drive(0, 0, 22, -2));
-            same(s, scene, "drive, its first", x -> x.drive(0, 0, 22, 0));
-            same(s, scene, "near", x -> x.near(1, 0));
-            same(s, scene, "gather", x -> x.gather(1, 1));
-            same(s, scene, "which", x -> x.which(0));
-            same(s, scene, "whose", x -> x.whose(0));
-            same(s, scene, "tell", x -> x.tell(0));
-            same(s, scene, "is", x -> x.is(0));
-            same(s, scene, "look", x -> x.look(0));
-            same(s, scene, "kinds", x -> x.kinds(0));
-            same(s, scene, "ask", x -> x.ask(0));
-            same(s, scene, "shepherds", x -> x.shepherds(0, 1, -1));
-            same(s, scene, "winters", x -> x.winters(999999, 60));
-            same(s, scene, "of", x -> x.of(0, 2));
-            same(s, scene, "about", x -> x.about(0, 2));
-            same(s, scene, "count", x -> x.count(4));
-            same(s, scene, "part", x -> x.part(1));
-            same(s, scene, "digest", WhistleFlock::digest);
+            Asks.all().forEach((name, ask) -> same(s, scene, name, ask));
             same(s, () -> behindMisheard(scene), "misheard", x -> x.misheard(0, 0, 1, 2, 3));
+        }
+    }
+
+    /** What was asked ahead of it makes no difference. */
+    private static void askedBehindOthers() {
+        Sentence s = Sentence.ofTerms(14, "(Nothing is changed by these;");
+        for (Supplier<WhistleFlock> scene : Arrays.<Supplier<WhistleFlock>>asList(Scenes::some, Scenes::full, Scenes::last)) {
+            Map<String, ToLongFunction<WhistleFlock>> asks = Asks.all();
+            List<String> names = new ArrayList<>(asks.keySet());
+            for (int turn = 0; turn < 2; turn++) {
+                WhistleFlock used = scene.get();
+                for (String name : names) {
+                    long due = asks.get(name).applyAsLong(scene.get());
+                    s.due(name + " behind others", asks.get(name).applyAsLong(used), due);
+                }
+                Collections.reverse(names);
+            }
         }
     }
 
@@ -185,6 +189,55 @@ final class WhitherSentences {
         driven(s, () -> Checks.told("fell 0;whistle 4 4;sheep 2 20;steps 1;"), 21, 2, 2, 3, 2, 3);
         driven(s, () -> Checks.told("fell 0;whistle 3 4;sheep 2 20;"), 21, 2, 3, 3);
         driven(s, () -> Checks.told("fell 0;whistle 5 4;sheep 2 20;steps 19;"), 21, 2, 2, 2, 3, 3);
+        driven(s, () -> Checks.told("fell 0;whistle 0 2;sheep 2 0;"), 1, 3, 3);
+        driven(s, () -> Checks.told("fell 0;whistle 0 4;sheep 0 2;"), 0, 3, 3);
+        driven(s, () -> Checks.told("fell 0;whistle 3 15;sheep 2 12;steps 11;"), 13, 1, 2, 0);
+        driven(s, () -> Checks.told("fell 0;whistle 2 6;sheep 3 7;steps 10;"), 21, 0, 1, 0, 1, 1, 0, 2, 2, 0, 2);
+        driven(s, () -> Checks.told("fell 0;whistle 1 23;sheep 3 12;"), 5, 0, 4, 2, 3);
+        driven(s, () -> Checks.told("fell 0;whistle 5 17;sheep 0 7;steps 20;"), 5, 1, 3, 0, 4, 3);
+        driven(s, () -> Checks.told("fell 0;whistle 4 19;sheep 0 16;"), 14, 2, 3, 3, 0, 1, 4);
+    }
+
+    /** How many calls bring the sheep to each cell, A being ten, - none; the row told does bring it there. */
+    private static void driveToEachCell() {
+        Sentence s = Sentence.ofTerms(17, "behind which the SHEEP is in that CELL: how many (0 .. 10);");
+        String[][] rows = {
+            {"fell 0;whistle 0 7;sheep 0 12;", "7674565634320125413465245"},
+            {"fell 0;whistle 1 0;sheep 1 1;", "10122--------------------"},
+            {"fell 0;whistle 2 18;sheep 4 6;", "639893089989---9---------"},
+            {"fell 0;whistle 3 24;sheep 5 13;steps 4;", "4--65-----1--03-----4--65"},
+            {"fell 0;whistle 4 12;sheep 3 11;", "4245421-4310-2121-4342454"},
+            {"fell 0;whistle 5 3;sheep 0 8;steps 17;", "98654753017541498634A8756"},
+            {"fell 0;whistle 0 2;sheep 2 0;", "02345--------------------"}
+        };
+        for (String[] row : rows) {
+            for (int cell = 0; cell < 25; cell++) {
+                int due = "0123456789A".indexOf(row[1].charAt(cell));
+                WhistleFlock x = Checks.told(row[0]);
+                s.due(row[0] + " to " + cell, x.drive(0, 0, cell, -2), due < 0 ? -6 : due);
+                s.due(row[0] + " comes to " + cell, broughtBy(x, cell, due), due < 0 ? -6 : cell);
+            }
+        }
+    }
+
+    private static int broughtBy(WhistleFlock x, int cell, int many) {
+        int[] row = new int[Math.max(0, many)];
+        for (int k = 0; k < row.length; k++) {
+            row[k] = x.drive(0, 0, cell, k);
+        }
+        for (int d : row) {
+            x.calls(0, d);
+        }
+        return many < 0 ? x.drive(0, 0, cell, 0) : x.about(0, 1);
+    }
+
+    private static void driveOfTheLast() {
+        Sentence s = Sentence.ofTerms(17, "DRIVE for a SHEEP, a WHISTLE and a CELL: the shortest row of CALLS to that WHISTLE,");
+        String text = "fell 0;whistle 0 24;whistle 0 4;sheep 0 12;sheep 0 24;sheep 2 20;";
+        s.onlyTold(() -> Checks.told(text), "drive(2, 1, 21, -2)", x -> x.drive(2, 1, 21, -2), 8);
+        s.onlyTold(() -> Checks.told(text), "drive(2, 1, 21, 4)", x -> x.drive(2, 1, 21, 4), 3);
+        s.onlyTold(() -> Checks.told(text), "drive(2, 0, 21, -2)", x -> x.drive(2, 0, 21, -2), 4);
+        s.onlyTold(() -> Checks.told(text), "drive(1, 1, 21, -2)", x -> x.drive(1, 1, 21, -2), -6);
     }
 
     private static void driveNone() {
@@ -276,5 +329,7 @@ final class WhitherSentences {
         gathered(s, "fell 2;whistle 3 8;sheep 3 8;sheep 2 17;", 1, 123);
         gathered(s, "fell 3;whistle 1 7;sheep 3 5;sheep 4 5;", 1, 321);
         gathered(s, "fell 23;whistle 3 16;sheep 5 18;sheep 3 13;sheep 2 9;", 2, 12);
+        gathered(s, "fell 8;whistle 1 16;sheep 0 11;", 1, 404);
+        gathered(s, "fell 5;whistle 4 8;sheep 0 7;sheep 4 6;", 2, 443);
     }
 }
