@@ -10,8 +10,8 @@ import java.util.TreeMap;
 /** ../shared/DOC.md by its heads: tests name its words, and what no test has named is found. */
 final class Document {
     /** A promise's part bears its number, the others bear these. */
-    static final int TERMS = 0, WHAT_IT_IS = -1;
-    private static final int OTHER = -2, LAST_PROMISE = 39;
+    static final int TERMS = 0, WHAT_IT_IS = -1, NOT_PROMISED = -2;
+    private static final int OTHER = -3, LAST_PROMISE = 39;
 
     private static final Map<Integer, String> PARTS = new TreeMap<>();
     private static final Map<Integer, boolean[]> NAMED = new TreeMap<>();
@@ -40,10 +40,12 @@ final class Document {
         if (head.startsWith("## Promise ")) {
             return Integer.parseInt(head.substring("## Promise ".length(), head.indexOf(':')));
         }
-        if (head.equals("## Terms")) {
-            return TERMS;
+        switch (head) {
+            case "## Terms": return TERMS;
+            case "## What it is": return WHAT_IT_IS;
+            case "## Not promised": return NOT_PROMISED;
+            default: return OTHER;
         }
-        return head.equals("## What it is") ? WHAT_IT_IS : OTHER;
     }
 
     private static boolean isFrame(String line) {

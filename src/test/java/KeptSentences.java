@@ -25,6 +25,7 @@ final class KeptSentences {
         digestOfAll();
         lastOfManyCalls();
         dearCalls();
+        laterCalls();
     }
 
     private static void fraction() {
@@ -189,8 +190,8 @@ final class KeptSentences {
     }
 
     private static void status() {
-        Sentence s = Sentence.ofTerms(37, "STATUS: how many calls were refused as BAD, NO, FULL (each answer told so below is"
-            + " such a one).");
+        Sentence s = Sentence.ofTerms(37,
+            "STATUS: how many calls were refused as BAD, NO, FULL (each answer told so below is such a one).");
         Sentence.of(37, "STATUS: BAD (0), NO (1), FULL (2).");
         WhistleFlock x = Scenes.full();
         long[] before = Sentence.status(x);
@@ -251,8 +252,9 @@ final class KeptSentences {
     }
 
     private static void firstOfThem() {
-        Sentence s = Sentence.ofTerms(37, "Refused, changing nothing but STATUS, the first of: BAD -2 a number is not as told;"
-            + " NO -3 as told; FULL -4");
+        Sentence s = Sentence.ofTerms(37,
+            "Refused, changing nothing but STATUS, the first of: BAD -2 a number is not as told; NO -3 as told;"
+                + " FULL -4");
         s.refused(Scenes::full, "whistle(6, 0), a 4th", x -> x.whistle(6, 0), BAD, Sentence.AS_BAD);
         s.refused(Scenes::full, "whistle(0, 25), a 4th", x -> x.whistle(0, 25), BAD, Sentence.AS_BAD);
         s.refused(Scenes::full, "sheep(-1, 0), an 8th", x -> x.sheep(-1, 0), BAD, Sentence.AS_BAD);
@@ -266,8 +268,9 @@ final class KeptSentences {
     }
 
     private static void counts() {
-        Sentence s = Sentence.of(38, "How many: 0 SHEEP, 1 WHISTLES, 2 the STEP, 3 THE FOLD's CELL, 4 FOLDED, 5 SEEN, 6 NOTES,"
-            + " 7 MARKS, 8 that may be undone, 9 bytes of THE TEXT.");
+        Sentence s = Sentence.of(38,
+            "How many: 0 SHEEP, 1 WHISTLES, 2 the STEP, 3 THE FOLD's CELL, 4 FOLDED, 5 SEEN, 6 NOTES, 7 MARKS, 8"
+                + " that may be undone, 9 bytes of THE TEXT.");
         int[] some = {3, 2, 6, 12, 0, 1, 1, 1, 3, 25};
         int[] full = {7, 3, 10, 24, 0, 5, 6, 6, 8, 150};
         for (int n = 0; n < some.length; n++) {
@@ -313,8 +316,9 @@ final class KeptSentences {
     }
 
     private static void digestOfAll() {
-        Sentence s = Sentence.of(39, "of WHISTLES KIND, CELL; of SHEEP KIND, CELL; of SEEN s, c; of NOTES i, t, x;"
-            + " of MARKS s, f, x; THE FRACTION.");
+        Sentence s = Sentence.of(39,
+            "of WHISTLES KIND, CELL; of SHEEP KIND, CELL; of SEEN s, c; of NOTES i, t, x; of MARKS s, f, x; THE"
+                + " FRACTION.");
         WhistleFlock x = Checks.told("fell 3;whistle 0 24;whistle 5 12;whistle 2 0;sheep 4 3;sheep 1 3;");
         x.misheard(0, 0, 4, 4, 0);
         s.due("some", x.digest(), chained(2, 3, 0, 3, 2, 0, 0, 0, 0, 65, 0, 24, 5, 12, 2, 0, 4, 3, 1, 3, 1, 1));
@@ -338,7 +342,8 @@ final class KeptSentences {
     }
 
     private static void lastOfManyCalls() {
-        Sentence s = Sentence.ofPart(1, Document.WHAT_IT_IS, "An object is used for at most 512 calls after it has been made;");
+        Sentence s = Sentence.ofPart(1, Document.WHAT_IT_IS,
+            "An object is used for at most 512 calls after it has been made;");
         WhistleFlock steps = new WhistleFlock();
         WhistleFlock refused = new WhistleFlock();
         WhistleFlock images = new WhistleFlock();
@@ -372,5 +377,25 @@ final class KeptSentences {
             case 2: return x.winters(999999, 60);
             default: return x.shepherds(0, 1, 0);
         }
+    }
+
+    /** What they answer is free, but LANGUAGE.md says that no call may ever throw. */
+    private static void laterCalls() {
+        Sentence s = Sentence.ofPart(1, Document.NOT_PROMISED, "nothing about an object after its 512th call.");
+        int thrown = 0;
+        WhistleFlock x = Scenes.full();
+        try {
+            for (int n = 0; n < MOST_CALLS; n++) {
+                changeAll(x);
+                x.image(n % 2);
+                x.from(n % 3);
+                x.type(n % 200);
+                x.misheard(0, 0, n % 5, n / 5 % 5, n % 11);
+                Asks.all().values().forEach(ask -> ask.applyAsLong(x));
+            }
+        } catch (RuntimeException e) {
+            thrown++;
+        }
+        s.due("how many threw", thrown, 0);
     }
 }

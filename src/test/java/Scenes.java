@@ -5,14 +5,19 @@ import java.util.function.Supplier;
 /** Objects in states that the tests of sentences begin with; each call makes a new one. */
 final class Scenes {
     /** Exactly 150 bytes: as many as THE TEXT may have. */
-    static final String FULL_TEXT = "fell 9;whistle 5 24;whistle 0 0;whistle 3 12;sheep 0 9;sheep 5 13;steps 99;call 2 0;"
-        + "sheep 1 1;sheep 2 2;sheep 3 3;sheep 4 4;sheep 5 5;steps2;call 0 1;";
+    static final String FULL_TEXT = "fell 9;whistle 5 24;whistle 0 0;whistle 3 12;sheep 0 9;sheep 5 13;steps 99;"
+        + "call 2 0;sheep 1 1;sheep 2 2;sheep 3 3;sheep 4 4;sheep 5 5;steps2;call 0 1;";
 
     private Scenes() {
     }
 
     static List<Supplier<WhistleFlock>> all() {
         return Arrays.asList(Scenes::nobody, Scenes::some, Scenes::full, Scenes::last);
+    }
+
+    /** Those in which there are two whistles and two sheep at least. */
+    static List<Supplier<WhistleFlock>> peopled() {
+        return Arrays.asList(Scenes::some, Scenes::full, Scenes::last);
     }
 
     /** A new object. */

@@ -235,7 +235,8 @@ final class TextSentences {
 
     private static void blanks() {
         Sentence s = Sentence.ofTerms(8,
-            "blanks (32), any number, ahead of, between and behind TOKENS (needed only between two words, two numbers).");
+            "blanks (32), any number, ahead of, between and behind TOKENS (needed only between two words, two"
+                + " numbers).");
         reads(s, "fell0;whistle5 24;sheep0 0;call0 4;steps9;", 5);
         reads(s, " fell 0 ; whistle 5 24 ; ", 2);
         reads(s, "    fell    0    ;    whistle    5    24    ;    ", 2);
@@ -248,8 +249,9 @@ final class TextSentences {
     }
 
     private static void wordsThatAreNone() {
-        Sentence s = Sentence.ofTerms(8, "FAULT: the place of the first byte of the first TOKEN that can not stand there"
-            + " (a word that is none,");
+        Sentence s = Sentence.ofTerms(8,
+            "FAULT: the place of the first byte of the first TOKEN that can not stand there (a word that is"
+                + " none,");
         faults(s, "fel 0;", 0);
         faults(s, "  ell 0;", 2);
         faults(s, "fells 0;", 0);
@@ -401,8 +403,9 @@ final class TextSentences {
     }
 
     private static void takesThePlace() {
-        Sentence s = Sentence.ofTerms(8, "A FELL that is read takes the place of all but IMAGES, THE TEXT, THE FRACTION,"
-            + " STATUS (SEEN ones, NOTES, MARKS none; nothing to undo).");
+        Sentence s = Sentence.ofTerms(8,
+            "A FELL that is read takes the place of all but IMAGES, THE TEXT, THE FRACTION, STATUS (SEEN ones,"
+                + " NOTES, MARKS none; nothing to undo).");
         WhistleFlock x = Scenes.full();
         x.clear();
         Checks.write(x, "fell 5;sheep 1 5;");
@@ -427,7 +430,8 @@ final class TextSentences {
 
     /** One that is read in a full fell answers as one that is made by calls, THE TEXT being the same. */
     private static void answersAsOneThatIsMade() {
-        Sentence s = Sentence.ofTerms(8, "A FELL that is read takes the place of all but IMAGES, THE TEXT, THE FRACTION,");
+        Sentence s = Sentence.ofTerms(8,
+            "A FELL that is read takes the place of all but IMAGES, THE TEXT, THE FRACTION,");
         Asks.all().forEach((name, ask) -> {
             WhistleFlock read = Scenes.full();
             read.clear();

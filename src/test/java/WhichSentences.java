@@ -71,7 +71,8 @@ final class WhichSentences {
     }
 
     private static void which() {
-        Sentence s = Sentence.ofTerms(21, "WHICH for a WHISTLE: CALLS (bits 0 to 4) to it now by which all SEEN are so.");
+        Sentence s = Sentence.ofTerms(21,
+            "WHICH for a WHISTLE: CALLS (bits 0 to 4) to it now by which all SEEN are so.");
         Sentence.of(21, "WHICH, as bits.");
         s.onlyTold(() -> seen(ONE_AND_ONE), "none seen", x -> x.which(0), 31);
         s.onlyTold(() -> seen(ONE_AND_ONE, 0, 14), "by on and to lie", x -> x.which(0), 18);
@@ -91,8 +92,8 @@ final class WhichSentences {
     }
 
     private static void whose() {
-        Sentence s = Sentence.ofTerms(22, "WHOSE: pairs 10 times a WHISTLE and a CALL by which all SEEN are so: how many;"
-            + " the k-th (rising).");
+        Sentence s = Sentence.ofTerms(22,
+            "WHOSE: pairs 10 times a WHISTLE and a CALL by which all SEEN are so: how many; the k-th (rising).");
         Sentence.of(22, "WHOSE: how many (k = NONE), the k-th.");
         String three = "fell 0;whistle 0 12;whistle 0 14;whistle 0 0;sheep 0 13;";
         s.onlyTold(() -> seen(three), "all pairs", x -> x.whose(NONE), 15);
@@ -128,8 +129,9 @@ final class WhichSentences {
     }
 
     private static void tell() {
-        Sentence s = Sentence.ofTerms(23, "TELL for a WHISTLE: the SHEEP that parts CALLS of WHICH best: by which the most by"
-            + " which it comes to one CELL are fewest; of like ones the first;");
+        Sentence s = Sentence.ofTerms(23,
+            "TELL for a WHISTLE: the SHEEP that parts CALLS of WHICH best: by which the most by which it comes"
+                + " to one CELL are fewest; of like ones the first;");
         Sentence.of(23, "TELL.");
         s.onlyTold(() -> seen(FOUR), "the third is as the fourth", x -> x.tell(0), 2);
         s.onlyTold(() -> seen(FOUR, 2, 13), "of back and to lie", x -> x.tell(0), 1);
@@ -147,7 +149,8 @@ final class WhichSentences {
     }
 
     private static void notes() {
-        Sentence s = Sentence.ofTerms(24, "NOTES 0 .. 5, as they come: a WHISTLE went x (0 .. 20) in STEP t (0 .. 99).");
+        Sentence s = Sentence.ofTerms(24,
+            "NOTES 0 .. 5, as they come: a WHISTLE went x (0 .. 20) in STEP t (0 .. 99).");
         Sentence.of(24, "A NOTE: how many there are.");
         WhistleFlock x = Checks.told(ONE_AND_ONE);
         s.due("count(6)", x.count(6), 0);
@@ -174,8 +177,9 @@ final class WhichSentences {
     private static void isAndLook() {
         Sentence is = Sentence.ofTerms(27, "IS: KINDS (bits) by which all NOTES of one are so.");
         Sentence.of(27, "IS, as bits.");
-        Sentence look = Sentence.ofTerms(28, "LOOK: the STEP t (0 .. 29) by which the most of these KINDS that go as far are"
-            + " fewest; of like ones the least; none: no KIND.");
+        Sentence look = Sentence.ofTerms(28,
+            "LOOK: the STEP t (0 .. 29) by which the most of these KINDS that go as far are fewest; of like ones"
+                + " the least; none: no KIND.");
         Sentence.of(28, "LOOK. NONE.");
         for (int[] row : LEFT_BY_NOTES) {
             is.onlyTold(() -> leftBy(row, true), "is(0)", x -> x.is(0), row[0]);
@@ -218,8 +222,8 @@ final class WhichSentences {
     }
 
     private static void marks() {
-        Sentence s = Sentence.ofTerms(25, "MARKS 0 .. 5, as they come: a SHEEP gave way by x (0 .. 9), the WHISTLE f (0 .. 8)"
-            + " off.");
+        Sentence s = Sentence.ofTerms(25,
+            "MARKS 0 .. 5, as they come: a SHEEP gave way by x (0 .. 9), the WHISTLE f (0 .. 8) off.");
         Sentence.of(25, "A MARK: how many there are.");
         WhistleFlock x = Checks.told(ONE_AND_ONE);
         s.due("count(7)", x.count(7), 0);
@@ -246,8 +250,9 @@ final class WhichSentences {
     private static void kindsAndAsk() {
         Sentence kinds = Sentence.ofTerms(29, "WHAT: KINDS of SHEEP (bits) by which all MARKS of one are so.");
         Sentence.of(29, "WHAT, as bits.");
-        Sentence ask = Sentence.ofTerms(30, "ASK: how FAR f (0 .. 8) by which the most of these KINDS that give way alike are"
-            + " fewest; of like ones the least; none: no KIND.");
+        Sentence ask = Sentence.ofTerms(30,
+            "ASK: how FAR f (0 .. 8) by which the most of these KINDS that give way alike are fewest; of like"
+                + " ones the least; none: no KIND.");
         Sentence.of(30, "ASK. NONE.");
         for (int[] row : LEFT_BY_MARKS) {
             kinds.onlyTold(() -> leftBy(row, false), "kinds(0)", x -> x.kinds(0), row[0]);
@@ -283,10 +288,11 @@ final class WhichSentences {
     }
 
     private static void shepherds() {
-        Sentence s = Sentence.ofTerms(31, "SHEPHERDS: two unlike WHISTLES a, b, CALLS i, j (0 .. 4) to each (to a now, then to"
-            + " b in the next STEP): to who calls a how many SHEEP are in THE FOLD then, to who calls b how many are not; less 1"
-            + " to each whose CALL is not to lie: pairs 10 i and j that rest (neither would get more by another CALL): how"
-            + " many; the k-th (rising).");
+        Sentence s = Sentence.ofTerms(31,
+            "SHEPHERDS: two unlike WHISTLES a, b, CALLS i, j (0 .. 4) to each (to a now, then to b in the next"
+                + " STEP): to who calls a how many SHEEP are in THE FOLD then, to who calls b how many are not; less 1"
+                + " to each whose CALL is not to lie: pairs 10 i and j that rest (neither would get more by another"
+                + " CALL): how many; the k-th (rising).");
         Sentence.of(31, "SHEPHERDS: how many (k = NONE), the k-th.");
         resting(s, "fell 0;whistle 0 3;whistle 0 24;", 0, 1, 44);
         resting(s, "fell 0;whistle 0 3;whistle 0 24;sheep 0 1;", 0, 1, 34, 44);
@@ -346,7 +352,8 @@ final class WhichSentences {
     }
 
     private static void misheard() {
-        Sentence s = Sentence.ofTerms(32, "MISHEARD: by c of 10 (0 .. 10) a CALL is heard as the next one (behind 4 comes 0):");
+        Sentence s = Sentence.ofTerms(32,
+            "MISHEARD: by c of 10 (0 .. 10) a CALL is heard as the next one (behind 4 comes 0):");
         String back = "fell 0;whistle 0 3;sheep 0 1;";
         hears(s, back, 3, 4, 0, 1, 1);
         hears(s, back, 3, 4, 10, 0, 1);
@@ -365,8 +372,9 @@ final class WhichSentences {
 
     /** Two calls back are needed, each heard as such by c of 10 where down was called, else where back was. */
     private static void misheardByOdds() {
-        Sentence s = Sentence.ofTerms(32, "the chance that a SHEEP is in THE FOLD behind two CALLS d, e (0 .. 4) to a WHISTLE,"
-            + " one behind the other from now on, each heard apart: THE FRACTION.");
+        Sentence s = Sentence.ofTerms(32,
+            "the chance that a SHEEP is in THE FOLD behind two CALLS d, e (0 .. 4) to a WHISTLE, one behind the"
+                + " other from now on, each heard apart: THE FRACTION.");
         Sentence.of(32, "MISHEARD is THE FRACTION: 1.");
         String twice = "fell 0;whistle 0 4;sheep 0 2;";
         int[] above = {0, 1, 1, 9, 4, 1, 9, 49, 16, 81, 1};
@@ -388,6 +396,9 @@ final class WhichSentences {
         s.due("of another", 1000 * last.part(0) + last.part(1), 1);
         last.misheard(2, 0, 3, 4, 3);
         s.due("by another", 1000 * last.part(0) + last.part(1), 1);
+        WhistleFlock both = Checks.told("fell 0;whistle 0 24;whistle 0 4;sheep 0 24;sheep 0 13;sheep 0 2;");
+        both.misheard(2, 1, 3, 3, 1);
+        s.due("by two calls to the second", 1000 * both.part(0) + both.part(1), 81100);
     }
 
     private static void wintered(Sentence s, String text, int seed, int n, int folded) {
@@ -395,8 +406,9 @@ final class WhichSentences {
     }
 
     private static void winters() {
-        Sentence s = Sentence.ofTerms(33, "WINTERS by a SEED (0 .. 999999), n (0 .. 60) STEPS: X is SEED at first; in each STEP X"
-            + " becomes X times 1103515245 and 12345, by 2147483648 what is left over;");
+        Sentence s = Sentence.ofTerms(33,
+            "WINTERS by a SEED (0 .. 999999), n (0 .. 60) STEPS: X is SEED at first; in each STEP X becomes X"
+                + " times 1103515245 and 12345, by 2147483648 what is left over;");
         Sentence.of(33, "WINTERS.");
         String sixty = "fell 24;whistle 1 13;whistle 1 17;whistle 4 23;sheep 0 2;sheep 2 20;";
         wintered(s, sixty, 0, 0, 0);
@@ -412,8 +424,9 @@ final class WhichSentences {
 
     /** By 0 the whistle 0 is called up, then on; by 1 the whistle 2 is called down, then 1 to lie, then 0 down. */
     private static void wintersBySteps() {
-        Sentence s = Sentence.ofTerms(33, "WHISTLE X by 65536 (cut), by 3 left over (not there: none, the STEP goes by), is called"
-            + " by X by 1048576 (cut), by 5 left over: how many SHEEP are in THE FOLD behind them.");
+        Sentence s = Sentence.ofTerms(33,
+            "WHISTLE X by 65536 (cut), by 3 left over (not there: none, the STEP goes by), is called by X by"
+                + " 1048576 (cut), by 5 left over: how many SHEEP are in THE FOLD behind them.");
         wintered(s, "fell 0;whistle 0 7;sheep 0 1;", 0, 1, 1);
         wintered(s, "fell 0;whistle 0 7;sheep 0 1;", 1, 1, 0);
         wintered(s, "fell 22;whistle 2 7;sheep 0 17;", 1, 2, 0);

@@ -35,7 +35,7 @@ final class WhitherSentences {
 
     private static void nothingIsChanged() {
         Sentence s = Sentence.ofTerms(14, "======== 2 (Nothing is changed by these; STEPS go beyond 9999 in them.)");
-        for (Supplier<WhistleFlock> scene : Arrays.<Supplier<WhistleFlock>>asList(Scenes::some, Scenes::full, Scenes::last)) {
+        for (Supplier<WhistleFlock> scene : Scenes.peopled()) {
             Asks.all().forEach((name, ask) -> same(s, scene, name, ask));
             same(s, () -> behindMisheard(scene), "misheard", x -> x.misheard(0, 0, 1, 2, 3));
         }
@@ -44,7 +44,7 @@ final class WhitherSentences {
     /** What was asked ahead of it makes no difference. */
     private static void askedBehindOthers() {
         Sentence s = Sentence.ofTerms(14, "(Nothing is changed by these;");
-        for (Supplier<WhistleFlock> scene : Arrays.<Supplier<WhistleFlock>>asList(Scenes::some, Scenes::full, Scenes::last)) {
+        for (Supplier<WhistleFlock> scene : Scenes.peopled()) {
             Map<String, ToLongFunction<WhistleFlock>> asks = Asks.all();
             List<String> names = new ArrayList<>(asks.keySet());
             for (int turn = 0; turn < 2; turn++) {
@@ -168,8 +168,9 @@ final class WhitherSentences {
     }
 
     private static void drive() {
-        Sentence s = Sentence.ofTerms(17, "DRIVE for a SHEEP, a WHISTLE and a CELL: the shortest row of CALLS to that WHISTLE,"
-            + " one in each STEP from now on, behind which the SHEEP is in that CELL: how many (0 .. 10);");
+        Sentence s = Sentence.ofTerms(17,
+            "DRIVE for a SHEEP, a WHISTLE and a CELL: the shortest row of CALLS to that WHISTLE, one in each"
+                + " STEP from now on, behind which the SHEEP is in that CELL: how many (0 .. 10);");
         driven(s, WhitherSentences::ram, 20);
         driven(s, () -> Checks.told("fell 0;whistle 0 0;sheep 0 2;"), 3, 1);
         driven(s, WhitherSentences::ram, 21, 2, 2, 2, 2, 3, 3, 3, 3);
@@ -232,8 +233,9 @@ final class WhitherSentences {
     }
 
     private static void driveOfTheLast() {
-        Sentence s = Sentence.ofTerms(17, "DRIVE for a SHEEP, a WHISTLE and a CELL: the shortest row of CALLS to that WHISTLE,");
-        String text = "fell 0;whistle 0 24;whistle 0 4;sheep 0 12;sheep 0 24;sheep 2 20;";
+        Sentence s = Sentence.ofTerms(17,
+            "DRIVE for a SHEEP, a WHISTLE and a CELL: the shortest row of CALLS to that WHISTLE,");
+        String text = "fell 0;whistle 0 24;whistle 0 4;sheep 0 12;sheep 5 24;sheep 2 20;";
         s.onlyTold(() -> Checks.told(text), "drive(2, 1, 21, -2)", x -> x.drive(2, 1, 21, -2), 8);
         s.onlyTold(() -> Checks.told(text), "drive(2, 1, 21, 4)", x -> x.drive(2, 1, 21, 4), 3);
         s.onlyTold(() -> Checks.told(text), "drive(2, 0, 21, -2)", x -> x.drive(2, 0, 21, -2), 4);
@@ -281,8 +283,9 @@ final class WhitherSentences {
     }
 
     private static void near() {
-        Sentence s = Sentence.ofTerms(18, "NEAR for a WHISTLE: the CALL to it now by which all SHEEP together are least FAR"
-            + " from THE FOLD; of like ones the first;");
+        Sentence s = Sentence.ofTerms(18,
+            "NEAR for a WHISTLE: the CALL to it now by which all SHEEP together are least FAR from THE FOLD; of"
+                + " like ones the first;");
         Sentence.of(18, "NEAR:");
         nearest(s, "fell 0;whistle 0 12;", 0, 0);
         nearest(s, "fell 0;whistle 0 24;sheep 0 3;", 0, 3);
@@ -307,8 +310,9 @@ final class WhitherSentences {
     }
 
     private static void gather() {
-        Sentence s = Sentence.ofTerms(19, "GATHER for a WHISTLE: three CALLS to it, one behind the other, by which most SHEEP"
-            + " are in THE FOLD behind them: how many;");
+        Sentence s = Sentence.ofTerms(19,
+            "GATHER for a WHISTLE: three CALLS to it, one behind the other, by which most SHEEP are in THE FOLD"
+                + " behind them: how many;");
         Sentence.of(19, "GATHER:");
         gathered(s, "fell 0;whistle 0 12;", 0, 0);
         gathered(s, "fell 0;whistle 0 3;sheep 0 1;", 1, 3);
@@ -319,8 +323,8 @@ final class WhitherSentences {
     }
 
     private static void gatherOfLikeOnes() {
-        Sentence s = Sentence.ofTerms(19, "the three as 100 times the first, 10 times the second, and the third"
-            + " (of like ones the least).");
+        Sentence s = Sentence.ofTerms(19,
+            "the three as 100 times the first, 10 times the second, and the third (of like ones the least).");
         gathered(s, "fell 0;whistle 0 24;sheep 0 2;", 0, 0);
         gathered(s, "fell 14;whistle 2 13;sheep 0 13;", 1, 0);
         gathered(s, "fell 22;whistle 0 7;sheep 0 12;", 1, 22);
