@@ -15,6 +15,7 @@ public final class AllTests {
         KeepingTests.run();
         sentences(args.length > 1 ? args[1] : "../shared/DOC.md");
         ModelTests.run();
+        HardyTests.run();
         if (!Checks.close()) {
             System.exit(1);
         }
