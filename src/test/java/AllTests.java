@@ -1,6 +1,6 @@
 import java.io.IOException;
 
-/** Runs every test of the project; its arguments are the places of WhistleFlock.java and of DOC.md. */
+/** Runs every test of the project; its arguments are the places of WhistleFlock.java, DOC.md and README.md. */
 public final class AllTests {
     private AllTests() {
     }
@@ -16,6 +16,7 @@ public final class AllTests {
         sentences(args.length > 1 ? args[1] : "../shared/DOC.md");
         ModelTests.run();
         HardyTests.run();
+        ReadmeTests.run(args.length > 2 ? args[2] : "README.md");
         if (!Checks.close()) {
             System.exit(1);
         }
