@@ -7,15 +7,16 @@ import java.util.Random;
 
 /** Any numbers in any state, far behind the 512th call: no call throws, and two objects of one past answer alike. */
 final class HardyTests {
-    private static final int RUNS = 60, CALLS = 2500;
+    private static final int RUNS = 60, DRAWS = 1500, TO_THE_BRIM = 9;
     private static final int[] FAR_OFF = {
         Integer.MIN_VALUE, Integer.MIN_VALUE + 1, -1000000, -13, -10, -6, -5, -3, -2, -1, 25, 60, 61, 99, 100, 127, 128,
         9999, 10000, 999999, 1000000, 1 << 30, Integer.MAX_VALUE - 1, Integer.MAX_VALUE
     };
     private static final String[] PIECES = {
-        "fell 0;", "fell 24;", "whistle 3 12;", "whistle 5 0;", "whistle 4 24;", "sheep 1 12;", "sheep 5 7;", "sheep 2 1;",
-        "call 0 1;", "call 1 3;", "call 2 2;", "steps 99;", "steps 1;", " ", ";", "7", "x", "\0", "\177"
+        "sheep 1 12;", "sheep 5 7;", "sheep 2 1;", "sheep 3 24;", "steps 99;", "call 0 1;", "call 1 3;", "whistle 5 0;",
+        "fell 7;", "call 2 2;", ";", "7", "x", "\0", "\177"
     };
+    private static final int FITTING = 8;
     private static final Method[] METHODS = methods();
 
     private final Random random;
@@ -31,7 +32,7 @@ final class HardyTests {
         for (int run = 0; run < RUNS; run++) {
             HardyTests one = new HardyTests(run);
             boolean stands = true;
-            for (int n = 0; n < CALLS && stands; n++) {
+            for (int n = 0; n < DRAWS && stands; n++) {
                 stands = n % 50 == 0 ? one.isTextTaken() : one.isTaken(METHODS[one.random.nextInt(METHODS.length)]);
             }
             Checks.holds("run " + run + " of any calls stands behind " + one.last, stands);
@@ -45,7 +46,17 @@ final class HardyTests {
             .toArray(Method[]::new);
     }
 
+    // Now and then so often that what can be full is full.
     private boolean isTaken(Method method) {
+        int times = random.nextInt(8) == 0 ? TO_THE_BRIM : 1;
+        boolean isTaken = true;
+        for (int n = 0; n < times && isTaken; n++) {
+            isTaken = isTakenOnce(method);
+        }
+        return isTaken;
+    }
+
+    private boolean isTakenOnce(Method method) {
         Object[] numbers = new Object[method.getParameterCount()];
         for (int place = 0; place < numbers.length; place++) {
             numbers[place] = random.nextInt(8) == 0 ? FAR_OFF[random.nextInt(FAR_OFF.length)] : near();
@@ -60,13 +71,14 @@ final class HardyTests {
     }
 
     private int near() {
-        return random.nextInt(4) == 0 ? random.nextInt(130) : random.nextInt(5);
+        int[] most = {130, 9, 5, 5};
+        return random.nextInt(most[random.nextInt(most.length)]);
     }
 
     private boolean isTextTaken() {
-        StringBuilder text = new StringBuilder(PIECES[random.nextInt(2)]);
+        StringBuilder text = new StringBuilder("fell 24;whistle 3 12;whistle 4 24;");
         while (text.length() < 150 && random.nextInt(15) != 0) {
-            text.append(PIECES[random.nextInt(random.nextInt(10) == 0 ? PIECES.length : PIECES.length - 6)]);
+            text.append(PIECES[random.nextInt(random.nextInt(30) == 0 ? PIECES.length : FITTING)]);
         }
         last = "read() of " + text;
         flock.clear();
